@@ -48,7 +48,7 @@ public final class ModelTest {
             case 1:
                 return to + 1;
             case 2:
-                return RANDOM.nextInt();
+                return new int[] {Integer.MIN_VALUE, Integer.MAX_VALUE, RANDOM.nextInt()}[RANDOM.nextInt(3)];
             default:
                 return from + RANDOM.nextInt(to - from + 1);
         }
