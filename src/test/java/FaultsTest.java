@@ -17,6 +17,7 @@ public final class FaultsTest {
         namesAgain();
         numbersThatCannotBe();
         theFirstByItsPlace();
+        oneTextAgainAndAgain();
         Check.end("FaultsTest");
     }
 
@@ -181,5 +182,25 @@ public final class FaultsTest {
         Check.fault("gust # 101", 1, 5);
         Check.fault("had 1;had #", 2, 6);
         Check.fault("had 1 < 2 < #", 2, 10);
+    }
+
+    /** What was told before, with a FAULT or without, leaves nothing behind for the next text. */
+    private static void oneTextAgainAndAgain() {
+        DeckChairs x = new DeckChairs();
+        String text = "chair a stripes 0;chair b stripes 1 shut 1 2 3;sitter a purse 1 likes 2;had 1+1;gust 5;draw 5;";
+        for (int i = 0; i < 4; i++) {
+            Check.due("time " + i, Check.tell(x, text), 1);
+            Check.due("CHAIRS at time " + i, x.about(1), 2);
+            Check.due("units at time " + i, x.about(11), 2);
+            Check.due("a FAULT at time " + i, Check.tell(x, text + "gust"), -1);
+            Check.due("its place at time " + i, x.fault(1), text.length());
+            x.end(0);
+        }
+        Check.due("less is told", Check.tell(x, "chair b stripes 9;"), 0);
+        Check.due("CHAIRS", x.about(1), 1);
+        Check.due("units", x.about(11), 0);
+        Check.due("gust", x.about(13), 0);
+        Check.due("SEED", x.about(5), 0);
+        Check.due("OPEN", x.about(2), 1);
     }
 }

@@ -58,6 +58,7 @@ public final class PromisesTest {
         ask();
         imageAndBack();
         about();
+        fullBeach();
         Check.end("PromisesTest");
     }
 
@@ -752,6 +753,7 @@ public final class PromisesTest {
             Check.due("noon(" + wrong + ", 0)", x.noon(wrong, 0), -1);
         }
         Check.due("of like ones the least", Check.told(ONE + "had hour / 3 > 4;").noon(0, 0), 15);
+        Check.due("hours up to 99", Check.told(ONE + "had hour - 50;").noon(0, 0), 99);
         Check.due("all alike", Check.told(ONE).noon(0, 0), 0);
         Check.due("99 at most", Check.told(ONE + "had hour;").noon(0, 0), 99);
     }
@@ -806,6 +808,8 @@ public final class PromisesTest {
         Check.due("veteran()", x.veteran(), 1);
         x.rise(1);
         Check.due("veteran(): he alone", x.veteran(), 0);
+        x.sit(1, 2);
+        Check.due("veteran(): of like ones the first", x.veteran(), 0);
         x.fill(2, 2);
         Check.due("richest()", x.richest(), 2);
     }
@@ -904,6 +908,7 @@ public final class PromisesTest {
         for (int wrong : new int[] {-1, 100, MIN, MAX}) {
             Check.due("seen(0, " + wrong + ", true)", x.seen(0, wrong, true), -1);
         }
+        Check.due("untell(0) of none", x.untell(0), false);
         for (int i = 0; i < 30; i++) {
             Check.due("seen " + i, x.seen(0, i == 0 ? 99 : 0, true), i);
         }
@@ -967,6 +972,7 @@ public final class PromisesTest {
         Check.due("what was told counts, not what is", x.fits(15), 11);
         x.seen(1, 99, true);
         Check.due("none fits", x.fits(15), 0);
+        Check.due("sure(1) if none fits", x.sure(1, 15), -1);
         Check.due("sure() if none fits", x.sure(0, 15), -1);
         DeckChairs y = Check.told("chair a stripes 3;");
         Check.due("fits() without SITTERS", y.fits(0), 0);
@@ -978,6 +984,12 @@ public final class PromisesTest {
         z.hour();
         z.seen(0, 39, true);
         Check.due("nobody else there, hour 0", z.sure(0, 0), 29);
+        DeckChairs w = Check.told("chair a stripes 0;sitter s purse 9 likes 9;had 5 - likes;");
+        w.seen(0, 5, true);
+        Check.due("just liking 0 fits", w.fits(0), 1);
+        Check.due("the least is 0", w.sure(0, 0), 0);
+        Check.due("the greatest is 0", w.sure(1, 0), 0);
+        Check.due("a SEEN that is not yet", w.untell(1), false);
     }
 
     private static void ask() {
@@ -1035,6 +1047,17 @@ public final class PromisesTest {
         x.hour();
         Check.due("it is kept still", x.back(2), 1);
         Check.due("another BOX", x.back(1), -1);
+        Check.due("image(0)", x.image(0), 1);
+        Check.due("image(1)", x.image(1), 1);
+        x.hour();
+        Check.due("image(1) anew", x.image(1), 2);
+        Check.due("back(0)", x.back(0), 1);
+        Check.due("back(1)", x.back(1), 2);
+        Check.due("back(2) stays", x.back(2), 1);
+        Check.tell(x, BEACH);
+        for (int box = 0; box < 3; box++) {
+            Check.due("a new BEACH empties BOX " + box, x.back(box), -1);
+        }
     }
 
     private static void about() {
@@ -1057,5 +1080,68 @@ public final class PromisesTest {
         }
         DeckChairs y = Check.told("had likes * 2 + (10 - stripes) * (likes < 5) + sat;");
         Check.due("units", y.about(11), 9);
+    }
+
+    /** As many CHAIRS and SITTERS as can be, so that each row inside is full. */
+    private static void fullBeach() {
+        DeckChairs x = Check.told("chair a stripes 0;chair b stripes 1;chair z stripes 2;chair d stripes 3;chair e stripes 4;"
+                + "sitter p purse 90 likes 0;sitter q purse 91 likes 1;sitter r purse 92 likes 2;sitter s purse 93 likes 3;"
+                + "sitter zz purse 94 likes 4;had (likes = stripes) * 10 + 1;gust 100;");
+        Check.due("seat()", x.seat(), 55);
+        Check.lies("each in his own", x, 0, 1, 2, 3, 4);
+        Check.due("toll(4)", x.toll(4), 0);
+        Check.due("gap()", x.gap(), 5);
+        Check.due("row(0, 4)", x.row(0, 4), 3);
+        for (int i = 0; i < 5; i++) {
+            Check.due("sit " + i, x.sit(i, (i + 1) % 5), 1);
+        }
+        Check.due("OPEN and taken", x.about(2) + 100 * x.about(3), 3131);
+        Check.due("trade(2)", x.trade(2), 15);
+        Check.due("trade(0)", x.trade(0), 0);
+        Check.due("trade(1)", x.trade(1), 1);
+        Check.due("ring()", x.ring(), 5);
+        Check.lies("ring()", x, 0, 1, 2, 3, 4);
+        Check.due("envy(4)", x.envy(4), 16);
+        Check.due("best(4, 0)", x.best(4, 0), -1);
+        Check.due("hour()", x.hour(), 5);
+        Check.due("all stay OPEN", x.about(2), 31);
+        Check.due("lonely()", x.lonely(), 0);
+        Check.due("couples()", x.couples(), 4);
+        Check.due("broke()", x.broke(), 0);
+        Check.due("throne()", x.throne(), 0);
+        Check.due("veteran()", x.veteran(), 0);
+        Check.due("richest()", x.richest(), 4);
+        Check.due("takings()", x.takings(), 5);
+        Check.due("law(7)", x.law(7), 5);
+        Check.due("change(3, 4)", x.change(3, 4), 15);
+        Check.due("chair(4, 2)", x.chair(4, 2), 4);
+        Check.due("chair(0, 2)", x.chair(0, 2), 3);
+        Check.due("will(4, 2)", x.will(4, 2), 23);
+        Check.due("out(4)", x.out(4), 9);
+        Check.due("rise(4)", x.rise(4), 4);
+        Check.due("rise(3)", x.rise(3), 0);
+        Check.due("rivals(3, 4)", x.rivals(3, 4), 2);
+        Check.lies("both are free", x, 0, 4);
+        Check.due("standing(1)", x.standing(1), 14);
+        Check.due("seen(4, 11, true)", x.seen(4, 11, true), 0);
+        Check.due("sure(0, 0)", x.sure(0, 0), 4);
+        Check.due("ask(0, 0)", x.ask(0, 0), 0);
+        Check.due("noon(4, 4)", x.noon(4, 4), 0);
+        Check.due("opening(4)", x.opening(4), 0);
+        Check.due("move(4, 3)", x.move(4, 3), 21);
+        Check.due("undo()", x.undo(), true);
+        Check.due("fill(4, 9)", x.fill(4, 9), 102);
+        DeckChairs y = Check.told("chair a stripes 0;chair b stripes 0;chair c stripes 0;chair d stripes 0;chair e stripes 0;"
+                + "sitter p purse 9 likes 1;sitter q purse 9 likes 2;sitter r purse 9 likes 3;"
+                + "had alone * 20 + likes;");
+        // At the ends and in the middle all are alone; two alone have as much as they may.
+        Check.due("three alone", y.seat(), 66);
+        Check.lies("three alone", y, 0, 2, 4);
+        Check.due("toll(1)", y.toll(1), 0);
+        DeckChairs z = Check.told("chair a stripes 0;chair b stripes 0;sitter p purse 9 likes 1;sitter q purse 9 likes 9;"
+                + "had 5 + alone * 2 + likes;");
+        Check.due("both side by side", z.seat(), 20);
+        Check.due("toll(0)", z.toll(0), 2);
+        Check.due("toll(1)", z.toll(1), 2);
     }
 }
