@@ -438,6 +438,10 @@ public final class EdgesOfThoughtTest {
         DeckChairs x = seated(190, 912, 201);
         Check.due("three change though two have more", x.ring(), 3);
         Check.lies("all three", x, 1, 2, 0);
+        // A pair that is dealt behind the ring of three has twice as much: the ring stays.
+        DeckChairs w = seated(129, 12, 201);
+        Check.due("three change though two have more", w.ring(), 3);
+        Check.lies("all three", w, 1, 2, 0);
         // Both rings of three: the second one has more.
         DeckChairs y = seated(123, 312, 231);
         Check.due("three change", y.ring(), 3);

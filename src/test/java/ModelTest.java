@@ -5,6 +5,8 @@ import java.util.Random;
 public final class ModelTest {
     private static final int RUNS = 1500;
     private static final int CALLS = 300;
+    // As many as an object is used for, once in a while.
+    private static final int CALLS_MOST = 512;
 
     private static final String[] ACTS = {"hour", "hour", "hour", "sit", "sit", "sit", "sit", "rise", "change",
         "change", "move", "move", "fill", "undo", "undo", "redo", "image", "back"};
@@ -24,7 +26,8 @@ public final class ModelTest {
             Model m = new Model();
             Texts texts = new Texts(RANDOM);
             boolean fine = tell(run, x, m, texts.next(run % 3 == 2));
-            for (int i = 0; i < CALLS && fine; i++) {
+            int calls = run % 10 == 0 ? CALLS_MOST : CALLS;
+            for (int i = 0; i < calls && fine; i++) {
                 if (RANDOM.nextInt(150) == 0) {
                     fine = tell(run, x, m, texts.next(RANDOM.nextInt(3) == 0));
                 } else {
