@@ -16,6 +16,10 @@ final class Check {
         }
     }
 
+    static int asked() {
+        return asked;
+    }
+
     static void due(String what, boolean got, boolean want) {
         due(what, got ? 1 : 0, want ? 1 : 0);
     }
