@@ -32,6 +32,7 @@ final class Document {
         Check.due("the document has both marks", start >= 0 && end > start, true);
         String due = bare(text.substring(Math.max(0, start), Math.max(start, end)));
         String got = bare(QUOTED.toString());
+        QUOTED.setLength(0);
         int at = 0;
         while (at < due.length() && at < got.length() && due.charAt(at) == got.charAt(at)) {
             at++;

@@ -409,6 +409,8 @@ public final class SentencesOfPromises17To50Test {
                     y.sit(0, 0);
                     y.sit(1, 1);
                     Check.due("each by what is so now", y.broke(), 1);
+                    Check.due("all five", taken(31, "had 51;").broke(), 31);
+                    Check.due("none of five", taken(31, "had 50;").broke(), 0);
                 });
     }
 
@@ -456,6 +458,8 @@ public final class SentencesOfPromises17To50Test {
             Check.due("not who has just sat down", x.veteran(), 1);
             x.change(0, 1);
             Check.due("behind a change both SAT 0", x.veteran(), 2);
+            x.rise(2);
+            Check.due("the very first one", x.veteran(), 0);
         });
     }
 

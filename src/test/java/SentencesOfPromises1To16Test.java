@@ -85,8 +85,14 @@ public final class SentencesOfPromises1To16Test {
             Check.due("beach()", x.beach(), 0);
             Check.due("gust and no draw", x.about(13) * 10 + x.about(5), 450);
             x.feed(0, 0, 0, 0, 0);
+            Check.due("all of them", x.end(20), 20);
             Check.due("end(0)", x.end(0), 0);
             Check.due("beach()", x.beach(), 0);
+            // "gust", " 45x", "xxxx" ..: what was cut off is not looked at.
+            x.feed(0x67757374, 0x20343578, 0x78787878, 0x78787878, 0x78787878);
+            x.end(7);
+            x.beach();
+            Check.due("a FAULT at the end", x.fault(0) * 10 + x.fault(1), 27);
         });
         Document.says("NONE, doing nothing, if it has not so many, or n is below 0.", () -> {
             Twins.refused("end(15) of 14", RICH, x -> x.end(15), -1);
@@ -104,33 +110,35 @@ public final class SentencesOfPromises1To16Test {
                 + " nothing is SEEN, nothing lies there, BOXES are empty then; the TIME stays): how many SITTERS;", () -> {
                     DeckChairs x = Twins.made(RICH);
                     x.end(0);
-                    String text = "chair a stripes 7;chair b stripes 8 shut 0 0 2;sitter p purse 11 likes 6;sitter q purse 12 likes 5;"
-                            + "had 1 + 2 + 3;gust 9;draw 10;";
+                    String text = "chair a stripes 7;chair b stripes 8 shut 0 0 2;chair c stripes 0;chair d stripes 0;"
+                            + "sitter p purse 11 likes 6;sitter q purse 12 likes 5;had 1 + 2 + 3;gust 9;draw 10;";
                     Check.due("how many SITTERS", Check.tell(x, text), 2);
-                    int[] about = {2, 2, 1, 0, 0, 10, 0, 0, 0, 6, 0, 3, 0, 9};
+                    int[] about = {2, 4, 13, 0, 0, 10, 0, 0, 0, 6, 0, 3, 0, 9};
                     for (int what = 0; what < about.length; what++) {
                         Check.due("about(" + what + ")", x.about(what), about[what]);
                     }
-                    int[][] chairs = {{7, 0, -1, 1, 0, 0, 0}, {8, 0, -1, 0, 0, 0, 2}};
+                    int[][] chairs = {{7, 0, -1, 1, 0, 0, 0}, {8, 0, -1, 0, 0, 0, 2}, {0, 0, -1, 1, 0, 0, 0}, {0, 0, -1, 1, 0, 0, 0}};
                     int[][] sitters = {{6, 11, -1, 0, 0}, {5, 12, -1, 0, 0}};
-                    for (int i = 0; i < 2; i++) {
+                    for (int i = 0; i < 4; i++) {
                         for (int what = 0; what < 7; what++) {
                             Check.due("chair(" + i + ", " + what + ")", x.chair(i, what), chairs[i][what]);
                         }
                         for (int what = 0; what < 5; what++) {
-                            Check.due("sitter(" + i + ", " + what + ")", x.sitter(i, what), sitters[i][what]);
+                            Check.due("sitter(" + i + ", " + what + ")", x.sitter(i, what), i < 2 ? sitters[i][what] : -2);
                         }
                     }
-                    Check.due("no third CHAIR", x.chair(2, 0), -2);
+                    Check.due("no fifth CHAIR", x.chair(4, 0), -2);
                     Check.due("no third SITTER", x.sitter(2, 0), -2);
                     Check.due("what is HAD", x.had(0, 0), 6);
                     Check.due("nothing to be undone", x.undo(), false);
                     Check.due("nothing to be redone", x.redo(), false);
-                    Check.due("nothing to be UNTOLD", x.untell(0), false);
+                    Check.due("nothing to be UNTOLD", x.untell(0) || x.untell(1), false);
+                    Check.due("nothing counts", x.fits(MAX), 31);
                     Check.due("nothing lies there", x.lies(0), -2);
                     for (int box = 0; box < 3; box++) {
                         Check.due("BOX " + box, x.back(box), -1);
                     }
+                    oneBehindAnother();
                 });
         Document.says("NONE: a FAULT (all stays).", () -> {
             for (String wrong : new String[] {"#", "gust 1;gust 1;", "chair a stripes 0;chair a stripes 0;", "draw 1000;",
@@ -169,6 +177,34 @@ public final class SentencesOfPromises1To16Test {
                 Check.due("fault(" + what + ")", x.fault(what), -1);
             }
         });
+    }
+
+    /** Nothing of an earlier BEACH is left, nor of what was SEEN of it. */
+    private static void oneBehindAnother() {
+        DeckChairs x = new DeckChairs();
+        for (int i = 0; i < 8; i++) {
+            if (i % 4 < 2) {
+                Check.due("full " + i, Check.tell(x, "chair a stripes 7 shut 1 1 1;chair b stripes 8;sitter p purse 31 likes 6;"
+                        + "had " + i + " + 2 + 3;gust 9;draw 10;"), 1);
+                Check.due("CHAIRS", x.about(1), 2);
+                Check.due("units", x.about(11), 3);
+                Check.due("what is HAD", x.had(0, 1), i + 5);
+                Check.due("gust and SEED", x.about(13) * 100 + x.about(5), 910);
+                x.seen(0, i + 6, true);
+                Check.due("none FITS", x.fits(MAX), 0);
+                x.sit(0, 1);
+                x.hour();
+            } else {
+                Check.due("spare " + i, Check.tell(x, "chair b stripes 1;sitter q purse 12 likes 5;"), 1);
+                Check.due("CHAIRS", x.about(1), 1);
+                Check.due("units", x.about(11), 0);
+                Check.due("what is HAD", x.had(0, 0), 11);
+                Check.due("gust and SEED", x.about(13) * 100 + x.about(5), 0);
+                Check.due("SAND", x.chair(0, 1), 0);
+                Check.due("nothing to be UNTOLD", x.untell(0), false);
+                Check.due("all FIT", x.fits(MAX), 31);
+            }
+        }
     }
 
     // ---- what is so now ----

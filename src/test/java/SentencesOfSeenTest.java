@@ -127,6 +127,11 @@ public final class SentencesOfSeenTest {
             Check.due("14", x.fits(0), 1);
             x.seen(0, 14, false);
             Check.due("none", x.fits(0), 0);
+            DeckChairs y = Check.told("chair a stripes 0;sitter s purse 9 likes 0;had 5 + likes;");
+            y.seen(0, 5, true);
+            Check.due("0, too", y.fits(0), 31);
+            y.seen(0, 6, false);
+            Check.due("0 alone", y.fits(0) * 100 + y.sure(0, 0) * 10 + y.sure(1, 0), 100);
         });
         Document.says("ASK: the CHAIR of which to know how much he would have there would leave the fewest of these at the most;",
                 () -> {
@@ -143,6 +148,11 @@ public final class SentencesOfSeenTest {
                     DeckChairs y = Check.told("chair a stripes 0;chair b stripes 1;sitter s purse 9 likes 0;"
                             + "had (stripes = 0) * (likes > 19) * likes + (stripes = 1) * (likes > 15);");
                     Check.due("two parts alike", y.ask(0, 0) * 100 + y.ask(1, 0), 116);
+                    // 99 is had from 19 on, 98 by 18.
+                    DeckChairs z = Check.told("chair a stripes 0;sitter s purse 9 likes 0;had 80 + likes;");
+                    Check.due("twelve of 99", z.ask(0, 0) * 100 + z.ask(1, 0), 12);
+                    z.seen(0, 99, false);
+                    Check.due("each by itself", z.ask(1, 0), 1);
                 });
         Document.says("of like ones the first.", () -> {
             DeckChairs x = Check.told("chair a stripes 3;chair b stripes 2;chair c stripes 2;sitter s purse 9 likes 0;had likes / stripes;");

@@ -511,6 +511,7 @@ public final class SentencesOfTextTest {
             Check.fault("chair a stripes 0;chair b stripes 0;chair c stripes 0;chair a stripes 0;", 3, 60);
             Check.fault("sitter s purse 0 likes 0;sitter s purse 0 likes 0;", 3, 32);
             right("chair a stripes 0;sitter a purse 0 likes 0;chair b stripes 0;sitter b purse 0 likes 0;", 2);
+            right("chair a stripes 0;chair aa stripes 0;chair ab stripes 0;chair ba stripes 0;chair b stripes 0;", 0);
         });
         Document.says("4 a number that can't be.", () -> {
             Check.fault("chair a stripes 10;", 4, 16);

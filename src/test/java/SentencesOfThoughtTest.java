@@ -71,6 +71,15 @@ public final class SentencesOfThoughtTest {
             Check.due("will(1, 60)", x.will(1, 60), 12);
             x.hour();
             Check.due("by what is now", x.will(0, 0) * 100 + x.will(1, 0), 906);
+            DeckChairs y = Check.told("chair a stripes 0;sitter s purse 99 likes 0;sitter t purse 99 likes 0;had sat * 10 + sand;");
+            y.sit(0, 0);
+            y.hour();
+            y.rise(0);
+            y.sit(1, 0);
+            y.hour();
+            // 1 SAND, then SAT 1 and 2 SAND, SAT 2 and 3 SAND.
+            Check.due("SAT, SAND and what he HAD", y.will(1, 2), 1 + 12 + 23);
+            Check.due("and his purse: then 34 of 63, 45 of 29", y.out(1), 4);
             Check.due("who SITS keeps his CHAIR OPEN", x.standing(1), 3);
             Check.due("gusts, as it is told there", x.standing(2), 0);
         });
@@ -192,6 +201,17 @@ public final class SentencesOfThoughtTest {
                     // The first one has 9, others 0; without him the second one would have 5.
                     Check.due("toll(0)", y.toll(0), 5);
                     Check.due("toll(1)", y.toll(1), 0);
+                    // Beside one another each has 5 and his liking, alone 2 more; the last of three CHAIRS is shut.
+                    y = Check.told(CHAIRS + "sitter s purse 0 likes 3;sitter t purse 0 likes 8;had 5 + alone * 2 + likes;");
+                    y.move(2, 0);
+                    Check.due("8 and 13", y.seat(), 21);
+                    Check.due("toll(0): he would have 15 for 13", y.toll(0), 2);
+                    Check.due("toll(1): he would have 10 for 8", y.toll(1), 2);
+                    y.move(0, 0);
+                    Check.due("alone in the second one", y.seat(), 15);
+                    Check.lies("alone in the second one", y, -1, 1);
+                    Check.due("toll(0): he keeps nobody out", y.toll(0), 0);
+                    Check.due("toll(1): the other one would have 10", y.toll(1), 10);
                     y = threeBy(950, 900, 0);
                     // 5 and 9; without the second one the first one would have 9 for his 5.
                     Check.due("toll(1) of who turns him out", y.toll(1), 4);
@@ -280,6 +300,23 @@ public final class SentencesOfThoughtTest {
                     y.hour();
                     y.hour();
                     trade("18 are lost", y, -1, -1, -1);
+                    // Who SITS where he sat before SAT 0 by no change: two are two.
+                    DeckChairs z = Check.told("chair a stripes 0;chair b stripes 1;sitter s purse 99 likes 0;sitter t purse 99 likes 1;"
+                            + "had 20 - sat * 5;");
+                    z.sit(0, 0);
+                    z.hour();
+                    z.hour();
+                    trade("not with himself", z, -1, -1, -1);
+                    z.sit(1, 1);
+                    z.hour();
+                    trade("with another one", z, 0, 1, 40);
+                    // Who does not change keeps his SAT.
+                    DeckChairs w = Check.told(CHAIRS + SITTERS + "had (not stripes = likes) * 30 + sat * 5;");
+                    w.sit(2, 2);
+                    w.hour();
+                    w.sit(0, 0);
+                    w.sit(1, 1);
+                    trade("his 5 count", w, 0, 1, 65);
                 });
         Document.says("of like ones the first (the lesser number, then the other one).", () -> {
             trade("all three alike", seatedBy(122, 212, 221), 0, 1, 5);
