@@ -197,6 +197,9 @@ public final class SentencesOfPromises17To50Test {
             Check.due("four", x.ring(), 4);
             Check.lies("four", x, 1, 2, 3, 0, -1);
             Check.due("nobody is moved", x.sitter(0, 2), 0);
+            x.sit(4, 4);
+            Check.due("four, and one stays", x.ring(), 4);
+            Check.lies("four, and one stays", x, 1, 2, 3, 0, 4);
             Check.due("of nobody", Check.told(CHAIRS).ring(), 0);
         });
         Document.says("`int envy(int sitter)`: ENVY, as bits;", () -> {

@@ -194,6 +194,12 @@ public final class SentencesOfPromises1To16Test {
                 Check.due("none FITS", x.fits(MAX), 0);
                 x.sit(0, 1);
                 x.hour();
+            } else if (i == 6) {
+                Check.due("a formula behind a longer one", Check.tell(x, "chair b stripes 1;sitter q purse 12 likes 5;had not 5;"), 1);
+                Check.due("what is HAD", x.had(0, 0), 0);
+                Check.tell(x, "chair b stripes 1;sitter q purse 12 likes 5;had not 5;");
+                Check.tell(x, "chair b stripes 1;sitter q purse 12 likes 5;had 5;");
+                Check.due("what is HAD", x.had(0, 0), 5);
             } else {
                 Check.due("spare " + i, Check.tell(x, "chair b stripes 1;sitter q purse 12 likes 5;"), 1);
                 Check.due("CHAIRS", x.about(1), 1);

@@ -120,6 +120,12 @@ public final class SentencesOfThoughtTest {
             x.sit(2, 1);
             Check.due("though one SITS between", x.seat(), 20);
             Check.lies("he in none", x, 0, 2, -1);
+            // With somebody it would be 10, but there is nobody else.
+            DeckChairs y = Check.told(CHAIRS + "sitter s purse 9 likes 0;had 10 - alone * 5;");
+            Check.due("nobody else there", y.seat(), 5);
+            y = Check.told(CHAIRS + "sitter s purse 9 likes 0;sitter t purse 9 likes 0;had 10 - alone * 5;");
+            Check.due("one beside the other one", y.seat(), 20);
+            Check.due("without him the other one has 5 less", y.toll(0), -5);
         });
     }
 
